@@ -19,6 +19,7 @@ public final class TriangulationTest {
         meanDegree();
         squaredLength();
         treeKeepsToEdges();
+        most();
         Check.finish();
     }
 
@@ -192,6 +193,24 @@ public final class TriangulationTest {
         Check.same("26 line least", line.squaredLength(0), 200);
         Check.same("26 line greatest", line.squaredLength(1), 16200);
         Check.same("26 line tree", line.squaredLength(2), 16400);
+    }
+
+    // No plan has more triangles and edges than 16 points with three of them on the hull.
+    private static void most() {
+        ConstrainedDelaunay d = Picture.made(0, 0, 100, 0, 0, 100);
+        for (int i = 0; i < 13; i++) {
+            d.addPoint(2 + 3 * i, 1 + 7 * i % 40);
+        }
+        Check.same("21 most", d.hullSize(), 3);
+        Check.same("13 most", d.triangleCount(), 27);
+        Check.same("16 most", d.edgeCount(), 42);
+        int area = 0;
+        for (int t = 0; t < 27; t++) {
+            area += d.twiceArea(t);
+        }
+        Check.same("23 most", area, 10000);
+        Check.same("17 the last edge", d.edgeEnd(41, 0) > 0 && d.edgeEnd(41, 1) > d.edgeEnd(41, 0), true);
+        Check.same("18 the last edge", d.edgeBetween(d.edgeEnd(41, 0), d.edgeEnd(41, 1)), 41);
     }
 
     private static void treeKeepsToEdges() {
