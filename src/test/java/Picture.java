@@ -4,13 +4,17 @@ final class Picture {
     }
 
     static String of(ConstrainedDelaunay d) {
-        return "points" + points(d) + " constraints" + constraints(d) + " triangles" + triangles(d)
-                + " edges" + edges(d) + " hull" + hull(d);
+        return plan(d) + " triangles" + triangles(d) + " edges" + edges(d) + " hull" + hull(d);
+    }
+
+    static String plan(ConstrainedDelaunay d) {
+        return "points" + points(d) + " constraints" + constraints(d);
     }
 
     static String points(ConstrainedDelaunay d) {
         StringBuilder text = new StringBuilder();
-        for (int p = 0; p < d.pointCount(); p++) {
+        int count = d.pointCount();
+        for (int p = 0; p < count; p++) {
             text.append(' ').append(d.coordinate(p, 0)).append(',').append(d.coordinate(p, 1));
         }
         return text.toString();
@@ -18,7 +22,8 @@ final class Picture {
 
     static String constraints(ConstrainedDelaunay d) {
         StringBuilder text = new StringBuilder();
-        for (int c = 0; c < d.constraintCount(); c++) {
+        int count = d.constraintCount();
+        for (int c = 0; c < count; c++) {
             text.append(' ').append(d.constraintEnd(c, 0)).append('-').append(d.constraintEnd(c, 1));
         }
         return text.toString();
@@ -26,7 +31,8 @@ final class Picture {
 
     static String triangles(ConstrainedDelaunay d) {
         StringBuilder text = new StringBuilder();
-        for (int t = 0; t < d.triangleCount(); t++) {
+        int count = d.triangleCount();
+        for (int t = 0; t < count; t++) {
             text.append(' ').append(d.corner(t, 0)).append('.').append(d.corner(t, 1)).append('.')
                     .append(d.corner(t, 2));
         }
@@ -35,7 +41,8 @@ final class Picture {
 
     static String beyonds(ConstrainedDelaunay d) {
         StringBuilder text = new StringBuilder();
-        for (int t = 0; t < d.triangleCount(); t++) {
+        int count = d.triangleCount();
+        for (int t = 0; t < count; t++) {
             text.append(' ').append(d.beyond(t, 0)).append('.').append(d.beyond(t, 1)).append('.')
                     .append(d.beyond(t, 2));
         }
@@ -44,7 +51,8 @@ final class Picture {
 
     static String edges(ConstrainedDelaunay d) {
         StringBuilder text = new StringBuilder();
-        for (int e = 0; e < d.edgeCount(); e++) {
+        int count = d.edgeCount();
+        for (int e = 0; e < count; e++) {
             text.append(' ').append(d.edgeEnd(e, 0)).append('-').append(d.edgeEnd(e, 1));
         }
         return text.toString();
@@ -52,7 +60,8 @@ final class Picture {
 
     static String hull(ConstrainedDelaunay d) {
         StringBuilder text = new StringBuilder();
-        for (int i = 0; i < d.hullSize(); i++) {
+        int count = d.hullSize();
+        for (int i = 0; i < count; i++) {
             text.append(' ').append(d.hullPoint(i));
         }
         return text.toString();
